@@ -1293,14 +1293,13 @@ public final class FivePlayers {
         /** THE FEWEST of all PARTS but one (or NOBODY); groupOf tells the groups. */
         int fewestGroups(int but) {
             stage.findBarred();
-            for (int most = 0; most < play.parts; most++) {
+            // a group for each PART always does
+            for (int most = 0; most <= play.parts; most++) {
                 Arrays.fill(inGroup, 0);
                 if (settle(0, 0, most, but)) {
                     return most;
                 }
             }
-            Arrays.fill(inGroup, 0);
-            settle(0, 0, play.parts, but);
             return play.parts;
         }
 
@@ -1433,8 +1432,8 @@ public final class FivePlayers {
         private int leastShare(int way, int j, int left, int budget) {
             int[] others = least[j + 1];
             for (int own = 0; own < left; own++) {
-                boolean fits = (own & ~left) == 0 && cost[own] < FAR && others[left ^ own] < FAR;
-                if (fits && together(way, cost[own], others[left ^ own]) <= budget) {
+                // what can't be is FAR above any budget
+                if ((own & ~left) == 0 && together(way, cost[own], others[left ^ own]) <= budget) {
                     return own;
                 }
             }

@@ -75,6 +75,13 @@ public final class CastTest {
         Due.is("bars on the least of several", x.two(0, 1, 1), 3);
         x.shift(4, 1);
         two(x, 0, 1, 3, 4);
+        // the first ENTRY of all is the later one
+        FivePlayers y = new FivePlayers();
+        y.part(0, 0);
+        y.part(0, 0);
+        y.entry(0, 50, 59, 0);
+        y.entry(1, 40, 48, 0);
+        two(y, 0, 1, 3, 50);
     }
 
     private static void twoKinds() {
@@ -146,6 +153,16 @@ public final class CastTest {
         two(x, 3, 1, 0, 0);
         two(x, 3, 2, 3, 5);
         two(x, 0, 3, 0, 0);
+        // just as long as it takes with the same side, which is no more
+        Due.is("text(1)", Due.text(x, 1, "3-s"), 1);
+        x.shift(0, 2);
+        two(x, 0, 1, 3, 5);
+        two(x, 0, 2, 0, 0);
+        Due.is("text(1)", Due.text(x, 1, "2+s"), 1);
+        two(x, 0, 1, 0, 0);
+        two(x, 0, 2, 3, 5);
+        Due.is("text(1)", Due.text(x, 1, "1+s"), 1);
+        two(x, 0, 2, 0, 0);
         // how long depends on which is left
         x.part(0, 1);
         x.part(0, 8);

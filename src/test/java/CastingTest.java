@@ -5,6 +5,7 @@ public final class CastingTest {
         noParts();
         ways();
         ties();
+        fresh();
         evenestTie();
         take();
         castings();
@@ -120,6 +121,19 @@ public final class CastingTest {
         best(x, 3, 7, 2, "2102");
         best(x, 3, 6, 3, "2122");
         best(x, 3, 1, Due.NONE, "");
+        // a wish for a third PART makes no casting of two that meet
+        FivePlayers y = new FivePlayers();
+        y.part(0, 0);
+        y.part(0, 0);
+        y.part(0, 0);
+        y.entry(0, 0, 9, 0);
+        y.entry(1, 0, 9, 0);
+        y.player(9, 0);
+        best(y, 0, 1, Due.NONE, "");
+        y.part(0, 9000);
+        y.player(8, 0);
+        best(y, 0, 2, Due.NONE, "");
+        best(y, 0, 3, 35, "0100");
     }
 
     private static void ties() {
@@ -132,6 +146,24 @@ public final class CastingTest {
         best(x, 3, 7, 3, "222");
         best(x, 2, 7, 1, "012");
         best(x, 2, 6, 2, "122");
+    }
+
+    /** None of these is asked first of what another call has left. */
+    private static void fresh() {
+        FivePlayers x = new FivePlayers();
+        x.image();
+        x.part(0, 3000);
+        x.part(0, 0);
+        x.player(3, 0);
+        x.player(2, 0);
+        never(x, 3, 1, 1, 0);
+        Due.is("best(0, 1, -1)", x.best(0, 1, -1), 6);
+        Due.is("restore()", x.restore(), 0);
+        Due.is("best(0, 0, -1), no PARTS again", x.best(0, 0, -1), 0);
+        FivePlayers y = new FivePlayers();
+        y.part(0, 3000);
+        y.player(2, 0);
+        Due.is("never(1, 0, 1)", y.never(1, 0, 1), Due.NONE);
     }
 
     private static void evenestTie() {

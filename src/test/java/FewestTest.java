@@ -73,6 +73,7 @@ public final class FewestTest {
         FivePlayers z = play(4, 0, 2, 2, 3, 3, 1);
         Due.is("fewest", z.fewest(), 2);
         groups(z, "0110");
+        groups(play(3, 0, 1, 1, 2, 2, 0), "012");
         Due.is("group(4)", z.group(4), Due.BEYOND);
         Due.is("group(-1)", z.group(-1), Due.BEYOND);
     }
@@ -94,6 +95,16 @@ public final class FewestTest {
         Due.is("three", x.crowd(), 3);
         x.entry(1, 9, 20, 0);
         Due.is("four", x.crowd(), 4);
+        FivePlayers y = new FivePlayers();
+        y.part(0, 0);
+        y.part(0, 0);
+        y.entry(0, 0, 0, 0);
+        Due.is("on the first LINE, in the first ENTRY", y.crowd(), 1);
+        y.entry(1, 0, 0, 0);
+        Due.is("both on the first LINE", y.crowd(), 2);
+        y.shift(0, 99);
+        y.shift(1, 99);
+        Due.is("both on the last LINE", y.crowd(), 2);
     }
 
     private static void helps() {
