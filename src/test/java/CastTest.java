@@ -265,6 +265,15 @@ public final class CastTest {
         bars(x, 1, 2);
         x.cast(2, 1);
         bars(x, 0);
+        // 0 isn't barred with 2, but with 3
+        x.entry(0, 60, 60, 0);
+        x.entry(3, 60, 60, 0);
+        x.cast(1, -1);
+        x.cast(0, 1);
+        x.cast(3, 1);
+        bars(x, 2, 0, 3, 60);
+        x.cast(3, -1);
+        x.cast(1, 0);
         // what one can't is asked first of a PART, but of PARTS in turn
         x.cast(0, 0);
         Due.is("text(0)", Due.text(x, 0, "n>1"), 1);

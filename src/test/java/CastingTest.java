@@ -5,6 +5,7 @@ public final class CastingTest {
         noParts();
         ways();
         ties();
+        idle();
         fresh();
         evenestTie();
         take();
@@ -146,6 +147,22 @@ public final class CastingTest {
         best(x, 3, 7, 3, "222");
         best(x, 2, 7, 1, "012");
         best(x, 2, 6, 2, "122");
+    }
+
+    /** The last of three can play nothing. */
+    private static void idle() {
+        FivePlayers x = new FivePlayers();
+        x.part(0, 5000);
+        x.part(0, 6000);
+        x.entry(0, 0, 9, 0);
+        x.entry(1, 5, 14, 0);
+        x.player(6, 0);
+        x.player(9, 0);
+        x.player(4, 0);
+        best(x, 0, 7, 15, "01");
+        best(x, 2, 7, 10, "01");
+        x.cast(0, 1);
+        best(x, 3, 7, 1, "10");
     }
 
     /** None of these is asked first of what another call has left. */
