@@ -1,3 +1,5 @@
+import java.util.function.IntToLongFunction;
+
 /** Compares answers with what is due, and ends a test with exit code 1 if one was wrong. */
 final class Due {
     static final int BEYOND = -1000001;
@@ -5,9 +7,15 @@ final class Due {
     static final int STATE = -1000003;
     static final int FULL = -1000004;
     static final int KIND = -1000005;
+    static final int MIN = Integer.MIN_VALUE;
+    static final int MAX = Integer.MAX_VALUE;
 
     private static int wrong = 0;
     private static int asked = 0;
+    /** The sentence that is tested now, told ahead of each wrong answer. */
+    private static String about = "";
+    /** How many sentences of each promise were tested; of the TERMS at 0. */
+    private static final int[] SENTENCES = new int[Doc.PROMISES + 1];
 
     private Due() { }
 
@@ -15,7 +23,34 @@ final class Due {
         asked++;
         if (got != want) {
             wrong++;
-            System.out.println(call + " answered " + got + ", due is " + want);
+            System.out.println(about + call + " answered " + got + ", due is " + want);
+        }
+    }
+
+    /** What comes now tests this sentence of a promise: its words must stand there. */
+    static void promise(int n, String words) {
+        about = "";
+        is("whether promise " + n + " says: " + words, Doc.says(n, words) ? 1 : 0, 1);
+        about = "promise " + n + " (" + words + "): ";
+        SENTENCES[n]++;
+    }
+
+    /** What comes now tests this sentence of the TERMS, by a promise that rests on it. */
+    static void term(int n, String words) {
+        about = "";
+        is("whether the TERMS say: " + words, Doc.says(Doc.TERMS, words) ? 1 : 0, 1);
+        about = "promise " + n + " (TERMS: " + words + "): ";
+        SENTENCES[n]++;
+    }
+
+    static int sentences(int promise) {
+        return SENTENCES[promise];
+    }
+
+    /** An argument may be low .. high: what comes next on both sides, and the ends of all ints, has an ERROR. */
+    static void outside(String call, int low, int high, int error, IntToLongFunction act) {
+        for (int v : new int[] {low - 1, high + 1, MIN, MAX}) {
+            is(call + " with " + v, act.applyAsLong(v), error);
         }
     }
 
