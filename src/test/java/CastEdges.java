@@ -32,6 +32,7 @@ final class CastEdges {
         barsCannot();
         barsTwo();
         barsFirst();
+        barsLater();
         barsNobody();
         barsBeyond();
         barsNone();
@@ -49,23 +50,25 @@ final class CastEdges {
     }
 
     /** Two PARTS of kinds, the first one's ENTRY ends with 9, so many LINES ahead of the other one's. */
-    private static FivePlayers pair(int kind, int other, int between, String change) {
+    private static FivePlayers pair(int kind, int other, int between, String change, int sides) {
         FivePlayers x = new FivePlayers();
         x.lines(200);
         x.part(kind, 0);
         x.part(other, 0);
-        x.entry(0, 9, 9, 0);
+        x.entry(0, 9, 9, sides);
         x.entry(1, 10 + between, 10 + between, 0);
         Due.is("text(1) of " + change, Due.text(x, 1, change), 1);
         return x;
     }
 
-    /** CHANGE of so many LINES is TOO NEAR just below what counts of it. */
+    /** Of CHANGE so many LINES count: fewer are TOO NEAR, whether it goes to the side from which it comes or not. */
     private static void counts(int kind, int other, int change, int counted) {
-        if (counted > 0) {
-            two(pair(kind, other, counted - 1, "" + change), 0, 1, 3, 9 + counted);
+        for (int sides = 0; sides < 2; sides++) {
+            if (counted > 0) {
+                two(pair(kind, other, counted - 1, "" + change, sides), 0, 1, 3, 9 + counted);
+            }
+            two(pair(kind, other, counted, "" + change, sides), 0, 1, 0, 0);
         }
-        two(pair(kind, other, counted, "" + change), 0, 1, 0, 0);
     }
 
     // ---- promise 17
@@ -263,6 +266,17 @@ final class CastEdges {
                 two(x, 0, 1, same ? 3 : 0, 15);
                 Due.text(x, 1, "9-s*9");
                 two(x, 0, 1, same ? 0 : 3, 15);
+                // five LINES between: s is 0 or 1 and nothing else
+                Due.text(x, 1, "5+s");
+                two(x, 0, 1, same ? 3 : 0, 15);
+                Due.text(x, 1, "6-s");
+                two(x, 0, 1, same ? 0 : 3, 15);
+                Due.text(x, 1, "4+s");
+                two(x, 0, 1, 0, 0);
+                Due.text(x, 1, "5-s");
+                two(x, 0, 1, 0, 0);
+                Due.text(x, 1, "7-s");
+                two(x, 0, 1, 3, 15);
             }
         }
     }
@@ -539,6 +553,25 @@ final class CastEdges {
         Due.text(x, 0, "1");
         x.cast(3, 1);
         bars(x, 3, 0, 3, 21);
+    }
+
+    private static void barsLater() {
+        Due.term(20, "then by PARTS q above p that the same one plays");
+        FivePlayers x = Plays.apart(6, 2);
+        for (int part = 0; part < 6; part++) {
+            x.cast(part, part % 2);
+        }
+        bars(x, 0);
+        // 3 and 5 meet: no p ahead of 3 is barred, nor 3 with a q of another PLAYER
+        x.shift(5, -20);
+        bars(x, 2, 3, 5, 30);
+        // 1 and 5 are TOO NEAR: q 3 isn't barred with p 1
+        x.shift(5, -19);
+        bars(x, 3, 1, 5, 11);
+        x.cast(1, 0);
+        bars(x, 0);
+        x.cast(5, 0);
+        bars(x, 3, 1, 5, 11);
     }
 
     private static void barsNobody() {

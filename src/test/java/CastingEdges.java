@@ -124,6 +124,14 @@ final class CastingEdges {
             Due.is("no PARTS, set 63", x.best(way, 63, -1), 0);
             Due.is("no PARTS, who plays 0", x.best(way, 63, 0), Due.BEYOND);
         }
+        // none any more: nothing is left of a SUM that was found ahead
+        FivePlayers y = new FivePlayers();
+        y.image();
+        y.part(0, 0);
+        y.player(9, 0);
+        Due.is("one PART", y.best(0, 1, -1), 9);
+        y.restore();
+        Due.is("no PARTS again", y.best(0, 0, -1), 0);
     }
 
     private static void bestWho() {
@@ -194,6 +202,8 @@ final class CastingEdges {
         best(x, 2, 3, 6, "1001");
         // 5 at most: only 3 and 2 go together
         best(x, 2, 7, 5, "0122");
+        // 6 at most: 4 alone for PLAYER 1 would leave 5 and 2 together
+        best(weights(new int[] {6, 4, 5, 2}, 0, 0, 0), 2, 7, 6, "0212");
         FivePlayers y = weights(new int[] {0, 0}, 0, 0);
         best(y, 2, 3, 0, "11");
         FivePlayers z = weights(new int[] {7}, 0, 0);
@@ -274,6 +284,19 @@ final class CastingEdges {
         best(x, 0, 2, Due.NONE, "");
         best(x, 0, 3, 10, "00");
         best(x, 2, 3, 10, "01");
+        // wishes for other PARTS don't make up for one that a PLAYER can't play
+        FivePlayers y = new FivePlayers();
+        y.part(0, 0);
+        y.part(0, 9000);
+        y.part(0, 0);
+        y.player(8, 0);
+        y.player(8, 0);
+        Due.text(y, 2, "999");
+        best(y, 0, 1, Due.NONE, "");
+        best(y, 0, 3, Due.NONE, "");
+        y.player(9, 0);
+        best(y, 0, 7, 2997, "222");
+        best(y, 0, 3, Due.NONE, "");
     }
 
     // ---- promise 28
@@ -511,6 +534,17 @@ final class CastingEdges {
         never(x, 3, 0, 2, 1);
         never(x, 3, 1, 1, 2);
         never(x, 7, 1, 1, 0);
+        // asked first of one who can't
+        FivePlayers y = new FivePlayers();
+        y.part(0, 0);
+        y.part(0, 5000);
+        y.player(9, 0);
+        y.player(4, 0);
+        never(y, 3, 1, 2, 0);
+        FivePlayers z = new FivePlayers();
+        z.part(0, 5000);
+        z.player(4, 0);
+        never(z, 1, 0, Due.NONE, Due.NONE);
     }
 
     private static void neverEach() {
@@ -527,6 +561,10 @@ final class CastingEdges {
         Due.promise(31, "a PLAYER (of the set or not)");
         FivePlayers x = Plays.apart(10, 6);
         never(x, 31, 5, 1023, 0);
+        Due.is("never(32, 5, 1), of the set", x.never(32, 5, 1), 1023);
+        Due.is("never(31, 5, 1), not of the set", x.never(31, 5, 1), 0);
+        Due.is("never(32, 5, 0), of the set", x.never(32, 5, 0), 0);
+        Due.is("never(31, 5, 0), not of the set", x.never(31, 5, 0), 1023);
         never(x, 62, 0, 1023, 0);
         never(x, 1, 1, 1023, 0);
     }

@@ -170,6 +170,15 @@ final class PlayEdges {
         Due.is("lines(60)", x.lines(60), Due.STATE);
         Due.is("shift(1, -1)", x.shift(1, -1), 4);
         Due.is("lines(60), it ends with 59", x.lines(60), 61);
+        FivePlayers y = Plays.full();
+        Due.is("40 ENTRIES, the last ends with 199", y.lines(199), Due.STATE);
+        Due.is("40 ENTRIES", y.lines(200), 200);
+        // an ENTRY that is no more doesn't matter
+        FivePlayers z = Plays.of(1, 0);
+        z.image();
+        z.entry(0, 99, 99, 0);
+        z.restore();
+        Due.is("no ENTRY any more", z.lines(10), 100);
     }
 
     private static void linesOrder() {

@@ -75,7 +75,7 @@ final class Plays {
         x.sheet(1, 16, 2);
         x.put(1, 1, 1);
         x.sheet(2, 8, 24);
-        x.put(2, 0, 99);
+        x.put(2, 1, 99);
         x.put(2, 23, 1);
         x.voice(2, 3, 11);
         return x;

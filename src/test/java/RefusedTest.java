@@ -223,7 +223,7 @@ public final class RefusedTest {
         of(38, "NONE: there is none");
         refuses(Due.NONE, "restore()", x -> x.restore());
         of(39, "FULL: 20 wait");
-        refuses(Due.FULL, "tell(0)", x -> x.tell(0));
+        refuses(Due.FULL, "tell(5)", x -> x.tell(5));
     }
 
     private static void empty() {

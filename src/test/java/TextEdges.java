@@ -426,8 +426,15 @@ final class TextEdges {
         worth("6=7", 0);
         worth("7>7", 0);
         worth("7>6", 1);
-        worth("5+(1<2)", 6);
         worth("8&8", 1);
+        // what isn't so is 0, not less
+        worth("5+(0|0)", 5);
+        worth("5+(7&0)", 5);
+        worth("5+(7<7)", 5);
+        worth("5+(6=7)", 5);
+        worth("5+(7>7)", 5);
+        worth("5+!7", 5);
+        worth("5+(1<2)", 6);
     }
 
     // ---- promise 16

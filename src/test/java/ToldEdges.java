@@ -54,6 +54,10 @@ final class ToldEdges {
         Due.is("told(4)", x.told(4), 2);
         x.check(0);
         Due.is("the first one again", x.tell(0), 1);
+        // those that wait stay as they are
+        FivePlayers y = Plays.apart(10, 1);
+        tell(y, 0, 0, 0, 0, 0, 0, 0, 0, 0, 0, 0, 0, 0, 0, 0, 0, 0, 0, 0, 0, 7, 7);
+        Due.is("check(0), all ten are right", y.check(0), 11);
     }
 
     // ---- promise 40
