@@ -4,7 +4,9 @@ import java.util.Random;
 public final class RandomTest {
     private static final String[] METHODS = Calls.METHODS;
     private static final int RUNS = 400;
+    /** The document promises nothing behind 512 calls; one step takes eight at most. */
     private static final int CALLS = 500;
+    private static final int COUNT = Calls.place("count");
     private static final String[] NAMES = {"ganyk", "wvkqs", "ganykl"};
 
     private final Random random;
@@ -15,6 +17,7 @@ public final class RandomTest {
     /** How long ENTRIES are: the longer, the fewer castings there are. */
     private final int longest;
     private final StringBuilder calls = new StringBuilder();
+    private int used = 0;
 
     private RandomTest(int seed) {
         random = new Random(seed);
@@ -33,7 +36,7 @@ public final class RandomTest {
     }
 
     private void run(int seed) {
-        for (int i = 0; i < CALLS; i++) {
+        for (int i = 0; used < CALLS; i++) {
             int method = i < 25 ? setUp(i) : random.nextInt(METHODS.length);
             if (isTooMuch(method)) {
                 continue;
@@ -51,12 +54,13 @@ public final class RandomTest {
 
     /** SlowPlayers tries all castings, so where there are too many of them it isn't asked. */
     private boolean isTooMuch(int method) {
-        int parts = x.count(1);
-        int players = x.count(3);
+        int parts = count(1);
+        int players = count(3);
         switch (METHODS[method]) {
             case "part": return parts >= mostParts && parts < 10;
             case "player": return players >= mostPlayers && players < 6;
             case "best": case "take": case "castings": case "never": case "check":
+                used++;
                 return x.castings((1 << players) - 1) > 5000;
             case "leave": return parts > 7 && players > 2 || parts > 5 && players > 4;
             default: return false;
@@ -68,6 +72,11 @@ public final class RandomTest {
         return first[i % first.length];
     }
 
+    /** SlowPlayers is asked, so that it is no call of the object that is tested. */
+    private int count(int what) {
+        return (int) slow.call(COUNT, 0, what);
+    }
+
     private boolean both(int seed, int method, long word, int[] a) {
         StringBuilder call = new StringBuilder(METHODS[method]);
         call.append('(').append(method == 12 ? word + "L, " : "");
@@ -76,6 +85,7 @@ public final class RandomTest {
         }
         call.append(')');
         calls.append(call).append('\n');
+        used++;
         long want = slow.call(method, word, a);
         long got = Calls.call(x, method, word, a);
         Due.is("run " + seed + ": " + call, got, want);
@@ -146,19 +156,19 @@ public final class RandomTest {
     }
 
     private int aPart() {
-        return in(x.count(1));
+        return in(count(1));
     }
 
     private int aPlayer() {
-        return in(x.count(3));
+        return in(count(3));
     }
 
     private int anEntry() {
-        return in(x.count(2));
+        return in(count(2));
     }
 
     private int aSet() {
-        int all = 1 << x.count(3);
+        int all = 1 << count(3);
         return random.nextInt(3) == 0 ? all - 1 : in(all);
     }
 
@@ -171,7 +181,7 @@ public final class RandomTest {
             case "entry": return anEntryToBe();
             case "entryIs": return new int[] {anEntry(), in(4)};
             case "shift": case "helps": return new int[] {anEntry(), in(61) - 30};
-            case "on": return new int[] {in(x.count(0))};
+            case "on": return new int[] {in(count(0))};
             case "player": return new int[] {random.nextInt(3) == 0 ? 9 : in(10), in(100)};
             case "know": return new int[] {aPlayer(), aPart(), in(2)};
             case "can": case "wish": return new int[] {aPlayer(), aPart()};
@@ -188,7 +198,7 @@ public final class RandomTest {
             case "leave": return new int[] {aSet(), in(2)};
             case "never": return new int[] {aSet(), aPlayer(), in(2)};
             case "voice": return new int[] {aPart(), in(4), random.nextInt() >> random.nextInt(32)};
-            case "trace": return new int[] {in(x.count(6))};
+            case "trace": return new int[] {in(count(6))};
             case "sheet": return new int[] {in(4), in(5) * 8, random.nextInt(10) - 1};
             case "put": return new int[] {in(4), in(6), random.nextInt(5) == 0 ? random.nextInt() : in(6) - 1};
             case "move": return new int[] {in(4), in(4), in(4), in(4), in(5)};
@@ -201,8 +211,8 @@ public final class RandomTest {
     }
 
     private int[] anEntryToBe() {
-        int from = in(x.count(0));
-        int to = random.nextInt(30) == 0 ? in(x.count(0)) : (int) Math.min(Integer.MAX_VALUE, from + (long) in(longest));
+        int from = in(count(0));
+        int to = random.nextInt(30) == 0 ? in(count(0)) : (int) Math.min(Integer.MAX_VALUE, from + (long) in(longest));
         return new int[] {aPart(), from, to, in(4)};
     }
 }

