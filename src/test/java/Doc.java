@@ -15,10 +15,14 @@ final class Doc {
 
     /** Whether a promise, or the TERMS, has these words, whatever blanks and lines stand between them. */
     static boolean says(int promise, String words) {
+        return text(promise).contains(plain(words));
+    }
+
+    static String text(int promise) {
         if (PARTS[TERMS] == null) {
             read();
         }
-        return PARTS[promise].contains(plain(words));
+        return PARTS[promise];
     }
 
     private static void read() {

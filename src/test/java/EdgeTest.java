@@ -1,6 +1,7 @@
 /** All promises, sentence by sentence: the edges that the document names, on both sides of them. */
 public final class EdgeTest {
     public static void main(String[] args) {
+        TermEdges.run();
         PlayEdges.run();
         PlayerEdges.run();
         TextEdges.run();

@@ -6,9 +6,14 @@ import java.nio.file.Files;
 import java.nio.file.Path;
 import java.util.Set;
 import java.util.TreeSet;
+import java.util.regex.Matcher;
+import java.util.regex.Pattern;
 
 /** The document's public face, and those rules of LANGUAGE.md that can be seen from outside or by a word. */
 public final class FaceTest {
+    private static final Path FILE = Path.of("src/main/java/FivePlayers.java");
+    private static final Pattern HEADING =
+            Pattern.compile("Ahead of the calls ([^:]*) the interface says: (---- .*?)\\.(?= Ahead| *$)");
     private static final String[] FACE = {"int lines(int)", "int part(int,int)", "int as(int,int)",
         "int partIs(int,int)", "int entry(int,int,int,int)", "int entryIs(int,int)", "int shift(int,int)",
         "int on(int)", "int player(int,int)", "int know(int,int,boolean)", "int can(int,int)", "int wish(int,int)",
@@ -22,7 +27,8 @@ public final class FaceTest {
     public static void main(String[] args) throws IOException {
         face();
         insides();
-        words(Path.of("src/main/java/FivePlayers.java"));
+        words(FILE);
+        headings(Files.readString(FILE));
         Due.end();
     }
 
@@ -89,6 +95,24 @@ public final class FaceTest {
         for (Method m : c.getDeclaredMethods()) {
             Due.is(m + " takes at most seven", m.getParameterCount() <= 7 ? 1 : 0, 1);
         }
+    }
+
+    /** TERMS: "Ahead of the calls .. the interface says: ---- ..": so it stands in the class, with those calls behind. */
+    private static void headings(String code) {
+        Matcher m = HEADING.matcher(Doc.text(Doc.TERMS));
+        int calls = 0;
+        while (m.find()) {
+            int start = code.indexOf("    // " + m.group(2) + "\n");
+            Due.is("whether the class says " + m.group(2), start >= 0 ? 1 : 0, 1);
+            int end = code.indexOf("    // ----", start + 1);
+            for (String call : m.group(1).split("[`, ]+")) {
+                int place = code.indexOf(" " + call + "(", code.indexOf("public FivePlayers()"));
+                boolean stands = call.isEmpty() || start < place && place < end;
+                Due.is("whether " + call + " stands behind " + m.group(2), stands ? 1 : 0, 1);
+                calls += call.isEmpty() ? 0 : 1;
+            }
+        }
+        Due.is("calls behind headings", calls, FACE.length);
     }
 
     private static void words(Path file) throws IOException {
